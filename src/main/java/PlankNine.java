@@ -936,7 +936,7 @@ public final class PlankNine {
             }
             for (int p = 0; p < marsh.people; p++) {
                 int w = marsh.weight[p];
-                for (int sum = Math.max(0, w); sum <= MOST_BORNE; sum++) {
+                for (int sum = w; sum <= MOST_BORNE; sum++) {
                     waysFor[sum] += waysFor[sum - w];
                 }
             }

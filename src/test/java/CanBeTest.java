@@ -57,6 +57,11 @@ public final class CanBeTest {
         check.due("left", x.all(1), 0);
         x = Check.told("plank 0 1 1;plank 0 2 1;plank 2 1 1;plank 1 3 2;person 2 2;person 1 1;errand 1 0 1;errand 1 0 3;");
         check.due("most is left", x.all(1), 1);
+        x = Check.told("plank 0 1 9;plank 1 2 9;plank 0 2 9;person 1 1;errand 0 0 2;");
+        check.due("the shorter way, though its numbers are behind", x.all(1), 26);
+        // 1 by the short one makes 2 go round (1 + 4); 1 going round leaves it to 2 (2 + 2).
+        x = Check.told("plank 0 1 2;plank 0 2 9;plank 2 1 9;person 1 1;person 2 1;errand 0 0 1;errand 1 0 1;");
+        check.due("the lighter one goes round", x.all(1), 16);
         // With stride 2 two planks take as much as one.
         x = Check.told("plank 0 3 9;plank 0 1 9;plank 1 3 9;person 2 2;errand 0 0 3;");
         check.due("either takes 2", x.all(1), 25);
