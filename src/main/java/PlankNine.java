@@ -349,6 +349,7 @@ public final class PlankNine {
         private static final int WRONG = 0, END = 1, SEMICOLON = 2, NUMBER = 3;
         private static final int MARSH = 4, PLANK = 5, PERSON = 6, ERRAND = 7;
         private static final int HIGHEST_NUMBER = 99;
+        private static final int MOST_NUMBERS = 3;
 
         private final Text text;
         private final Marsh draft = new Marsh();
@@ -357,6 +358,8 @@ public final class PlankNine {
         private int start = 0;
         private int behind = 0;
         private int value = 0;
+        /** The numbers of the item that is being read. */
+        private final int[] numbers = new int[MOST_NUMBERS];
 
         Reader(Text text) {
             this.text = text;
@@ -369,90 +372,73 @@ public final class PlankNine {
             int items = 0;
             readToken();
             while (items < MOST_BYTES && token != END) {
+                int item = token;
                 // Every fault is the place of the token at which reading stops.
-                if (!readItem(items == 0)) {
+                if (!canBegin(item, items) || !readNumbers(item) || !readSemicolon()) {
                     return FAULT_AT_0 - start;
                 }
+                addItem(item);
                 items++;
                 readToken();
             }
             return items;
         }
 
-        private boolean readItem(boolean isFirst) {
-            switch (token) {
+        private boolean canBegin(int item, int itemsBefore) {
+            switch (item) {
                 case MARSH:
-                    return isFirst && readMarsh();
+                    return itemsBefore == 0;
                 case PLANK:
-                    return draft.planks < MOST_PLANKS && readPlank();
+                    return draft.planks < MOST_PLANKS;
                 case PERSON:
-                    return draft.people < MOST_PEOPLE && readPerson();
+                    return draft.people < MOST_PEOPLE;
                 case ERRAND:
-                    return draft.errands < MOST_ERRANDS && readErrand();
+                    return draft.errands < MOST_ERRANDS;
                 default:
                     return false;
             }
         }
 
-        private boolean readMarsh() {
-            if (!readNumber(FEWEST_PLACES, MOST_PLACES)) {
-                return false;
+        private boolean readNumbers(int item) {
+            int lastPlace = draft.places - 1;
+            switch (item) {
+                case MARSH:
+                    return readNumber(0, FEWEST_PLACES, MOST_PLACES);
+                case PLANK:
+                    return readNumber(0, 0, lastPlace)
+                        && readNumber(1, 0, lastPlace) && numbers[1] != numbers[0]
+                        && readNumber(2, 0, MOST_BORNE);
+                case PERSON:
+                    return readNumber(0, 1, MOST_WEIGHT) && readNumber(1, 1, MOST_STRIDE);
+                case ERRAND:
+                    return readNumber(0, 0, draft.people - 1)
+                        && readNumber(1, 0, lastPlace)
+                        && readNumber(2, 0, lastPlace) && numbers[2] != numbers[1];
+                default:
+                    return false;
             }
-            draft.places = value;
-            return readSemicolon();
         }
 
-        private boolean readPlank() {
-            if (!readPlace()) {
-                return false;
+        private void addItem(int item) {
+            if (item == MARSH) {
+                draft.places = numbers[0];
+            } else if (item == PLANK) {
+                draft.addPlank(numbers[0], numbers[1], numbers[2]);
+            } else if (item == PERSON) {
+                draft.addPerson(numbers[0], numbers[1]);
+            } else if (item == ERRAND) {
+                draft.addErrand(numbers[0], numbers[1], numbers[2]);
             }
-            int a = value;
-            if (!readPlace() || value == a) {
-                return false;
-            }
-            int b = value;
-            if (!readNumber(0, MOST_BORNE)) {
-                return false;
-            }
-            draft.addPlank(a, b, value);
-            return readSemicolon();
         }
 
-        private boolean readPerson() {
-            if (!readNumber(1, MOST_WEIGHT)) {
-                return false;
-            }
-            int w = value;
-            if (!readNumber(1, MOST_STRIDE)) {
-                return false;
-            }
-            draft.addPerson(w, value);
-            return readSemicolon();
-        }
-
-        private boolean readErrand() {
-            if (!readNumber(0, draft.people - 1)) {
-                return false;
-            }
-            int p = value;
-            if (!readPlace()) {
-                return false;
-            }
-            int a = value;
-            if (!readPlace() || value == a) {
-                return false;
-            }
-            draft.addErrand(p, a, value);
-            return readSemicolon();
-        }
-
-        private boolean readPlace() {
-            return readNumber(0, draft.places - 1);
-        }
-
-        private boolean readNumber(int least, int most) {
+        /** The item's i-th number (from 0), if it is one that may stand there. */
+        private boolean readNumber(int i, int least, int most) {
             readToken();
-            return token == NUMBER && isWithin(value, least, most);
+            if (token != NUMBER || !isWithin(value, least, most) || !isWithin(i, 0, MOST_NUMBERS - 1)) {
+                return false;
+            }
+            numbers[i] = value;
+            return true;
         }
 
         private boolean readSemicolon() {
