@@ -2,7 +2,7 @@
  * Footways over a marsh: planks that bear so many steps and then go under,
  * people by weights and strides, errands, all told by a text.
  *
- * The promises that the comments name are those of the project's document.
+ * Words in capitals are the terms of the project's document.
  */
 public final class PlankNine {
     public static final int BAD = -1, STATE = -2, FULL = -3, NONE = -9;
