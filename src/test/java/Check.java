@@ -1,6 +1,16 @@
+import java.io.IOException;
+import java.io.UncheckedIOException;
+import java.nio.file.Files;
+import java.nio.file.Path;
+import java.util.function.Supplier;
+import java.util.function.ToLongFunction;
+
 /** Counts and prints what is not as due; each test's main ends with finish(). */
 final class Check {
+    private static final Path DOCUMENT = Path.of("../shared/DOC.md");
+
     private final String test;
+    private String words = "";
     private int wrong = 0;
     private int asked = 0;
 
@@ -8,16 +18,51 @@ final class Check {
         this.test = test;
     }
 
+    /** The words of the document that the next answers are held against; they must stand there. */
+    void sentence(String quoted) {
+        words = "";
+        holds("the document says: " + quoted, document().contains(quoted));
+        words = " [" + quoted + "]";
+    }
+
+    private static String document() {
+        try {
+            return Files.readString(DOCUMENT).replaceAll("\\s+", " ");
+        } catch (IOException e) {
+            throw new UncheckedIOException(e);
+        }
+    }
+
     void due(String call, long got, long want) {
         asked++;
         if (got != want) {
             wrong++;
-            System.out.println(test + ": " + call + " answered " + got + ", due is " + want);
+            System.out.println(test + words + ": " + call + " answered " + got + ", due is " + want);
         }
     }
 
     void holds(String what, boolean isSo) {
         due(what, isSo ? 1 : 0, 1);
+    }
+
+    void alike(String what, String got, String want) {
+        asked++;
+        if (!got.equals(want)) {
+            wrong++;
+            System.out.println(test + words + ": " + what + " is\n  " + got + "\n  due is\n  " + want);
+        }
+    }
+
+    /** A call on an object answers what is due, and leaves it as its twin, which was not called. */
+    void changesNothing(String call, Supplier<PlankNine> made, ToLongFunction<PlankNine> asks, long want) {
+        PlankNine x = made.get();
+        due(call, asks.applyAsLong(x), want);
+        alike("what is there behind " + call, Sight.whole(x), Sight.whole(made.get()));
+    }
+
+    /** Numbers that are not least .. most: next to it on either side, and the farthest. */
+    static int[] beyond(int least, int most) {
+        return new int[] {least - 1, most + 1, least - 2, most + 2, Integer.MIN_VALUE, Integer.MAX_VALUE};
     }
 
     /** Types a text, eight bytes at a time; its characters are bytes (0 .. 255). */
