@@ -10,6 +10,8 @@ public final class CanBeBoundsTest {
         oneStepTooFew();
         oneBehindAnother();
         mostThatIsLeft();
+        allOverNinePlanks();
+        noPlaceTwice();
         whatOfAll();
         weightGoesInto();
         mostOften();
@@ -112,6 +114,26 @@ public final class CanBeBoundsTest {
         x = Check.told("marsh 6;" + "plank 0 1 9;plank 1 2 9;plank 2 3 9;plank 3 4 9;plank 4 5 9;" + "person 1 2;"
             + "errand 0 0 5;".repeat(3));
         check.due("five planks, three of them taken, three times", x.all(1), 36);
+    }
+
+    private static void allOverNinePlanks() {
+        check.sentence("by some WAYS that are BORNE then");
+        String errands = "person 1 1;" + "errand 0 0 1;".repeat(3);
+        PlankNine x = Check.told("plank 2 3 9;".repeat(8) + "plank 0 1 3;" + errands);
+        check.due("by the ninth", x.all(0), 1);
+        check.due("by the ninth, left", x.all(1), 72);
+        x = Check.told("plank 2 3 9;".repeat(8) + "plank 0 1 2;" + errands);
+        check.due("the ninth bears two", x.all(0), 0);
+        x = Check.told("plank 0 1 1;".repeat(3) + "plank 0 1 0;".repeat(6) + errands);
+        check.due("by the first three", x.all(1), 0);
+    }
+
+    private static void noPlaceTwice() {
+        check.sentence("PLANKS, each once, none of its PLACES twice.");
+        // A round of three from the start would make the weak plank the 4th, which takes none.
+        PlankNine x = Check.told("marsh 5;plank 0 1 9;plank 1 2 9;plank 2 0 9;plank 0 3 1;person 2 2;errand 0 0 3;");
+        check.due("not back to where it starts", x.all(0), 0);
+        check.due("NONE", x.all(1), PlankNine.NONE);
     }
 
     private static void whatOfAll() {

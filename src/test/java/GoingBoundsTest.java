@@ -94,13 +94,15 @@ public final class GoingBoundsTest {
 
     private static void noPlaceTwice() {
         check.sentence("PLANKS, each once, none of its PLACES twice.");
-        // A round ahead of the weak plank would make it the 2nd or 4th: by the place it starts at, or one on the way.
-        PlankNine x = Check.told("plank 0 1 9;plank 1 0 9;plank 0 2 1;person 2 2;");
-        check.due("not back to where it starts", x.way(0, 0, 2, -1), PlankNine.NONE);
-        x = Check.told("marsh 5;plank 0 1 9;plank 1 2 9;plank 2 3 9;plank 3 1 9;plank 1 4 9;plank 4 2 1;person 2 2;");
-        check.due("there is a way by 1 and 2", x.way(0, 0, 2, -1), 2);
+        // A round of three ahead of the weak plank would make it the 4th, which takes none.
+        PlankNine x = Check.told("marsh 5;plank 0 1 9;plank 1 2 9;plank 2 0 9;plank 0 3 1;person 2 2;");
+        check.due("not back to where it starts", x.way(0, 0, 3, -1), PlankNine.NONE);
+        check.due("nor gone so", x.go(0, 0, 3), PlankNine.STATE);
+        check.due("from another place it is the 2nd", x.way(0, 1, 3, -1), 2);
+        x = Check.told("marsh 6;plank 0 1 9;plank 1 2 9;plank 2 3 9;plank 3 1 9;plank 1 4 9;plank 4 5 1;person 2 2;");
+        check.due("not back to one on the way", x.way(0, 0, 5, -1), PlankNine.NONE);
         x = Check.told("marsh 6;plank 0 1 9;plank 1 2 9;plank 2 3 1;plank 3 4 9;plank 4 2 9;plank 2 5 1;person 2 2;");
-        check.due("the 3rd is weak, no round helps", x.way(0, 0, 5, -1), PlankNine.NONE);
+        check.due("no round of use", x.way(0, 0, 5, -1), PlankNine.NONE);
         // The goal is a place, too: no way goes by it and comes back.
         x = Check.told("plank 0 1 1;plank 0 2 9;plank 2 1 9;person 2 1;");
         check.due("round about", x.way(0, 0, 1, -1), 2);
@@ -401,6 +403,10 @@ public final class GoingBoundsTest {
             check.due("those below 9", x.frost(), more);
         }
         check.due("none beyond 9", x.count(5), 72);
+        x = Check.told("plank 0 1 1;" + "plank 0 1 0;".repeat(7) + "plank 0 1 8;");
+        check.due("the first and the last", x.frost(), 2);
+        check.due("the first", x.plank(0, 2), 2);
+        check.due("the last", x.plank(8, 2), 9);
         check.changesNothing("all bear 9", () -> row(1, 1, 9, 9, 9), PlankNine::frost, 0);
         check.changesNothing("all are under", () -> row(1, 1, 0, 0), PlankNine::frost, 0);
         check.changesNothing("no planks", PlankNine::new, PlankNine::frost, 0);

@@ -1,12 +1,19 @@
-/** Promises 1 to 25 together: long runs of calls, each answer held against the Model's. */
+/**
+ * Promises 1 to 25 together: runs of calls, as long as an object is used, each answer held against
+ * the Model's.
+ */
 public final class ModelTest {
-    private static final int RUNS = 400;
-    private static final int CALLS = 500;
+    private static final int RUNS = 3000;
+    private static final int MOST_CALLS = 512;
+    /** What lookAtAll and tellAnew come to at most. */
+    private static final int CALLS_TO_LOOK = 107;
+    private static final int CALLS_TO_TELL = 220;
     private static final Check check = new Check("ModelTest");
 
     private final PlankNine x = new PlankNine();
     private final Model m = new Model();
     private final String name;
+    private int calls = 0;
     private long seed;
 
     private ModelTest(int run) {
@@ -22,15 +29,20 @@ public final class ModelTest {
     }
 
     private void run(int run) {
-        for (int call = 0; call < CALLS; call++) {
-            if (call % 100 == 0) {
+        tellAnew(run % 4 == 3);
+        while (calls < MOST_CALLS - CALLS_TO_LOOK) {
+            if (pick(100) == 0 && calls < MOST_CALLS - CALLS_TO_LOOK - CALLS_TO_TELL) {
                 tellAnew(run % 4 == 3);
             }
             ask(pick(60));
-            if (call % 50 == 49) {
-                lookAtAll();
-            }
         }
+        lookAtAll();
+        check.holds(name + "calls: " + calls, calls <= MOST_CALLS);
+    }
+
+    private void due(String call, long got, long want) {
+        calls++;
+        check.due(name + call, got, want);
     }
 
     /** The same numbers in every run of the tests. */
@@ -60,19 +72,19 @@ public final class ModelTest {
         while (at < text.length()) {
             int n = Math.min(1 + pick(8), text.length() - at);
             long v = Check.packed(text.substring(at, at + n)) | (n < 8 ? (long) pick(1000) << 8 * n : 0);
-            check.due(name + "type " + text, x.type(v, n), m.type(v, n));
+            due("type " + text, x.type(v, n), m.type(v, n));
             at += n;
         }
     }
 
     private void tellAnew(boolean mayBeWrong) {
-        check.due(name + "clear", x.clear(), m.clear());
+        due("clear", x.clear(), m.clear());
         String text = textOfItems();
         if (mayBeWrong) {
             text = spoilt(text);
         }
         type(text);
-        check.due(name + "marsh " + text, x.marsh(), m.marsh());
+        due("marsh " + text, x.marsh(), m.marsh());
     }
 
     private String textOfItems() {
@@ -138,27 +150,27 @@ public final class ModelTest {
         int b = place();
         int k = plank();
         int l = plank();
-        String with = name + p + " " + a + " " + b + " " + k + " " + l;
+        String with = p + " " + a + " " + b + " " + k + " " + l;
         if (call < 8) {
             int i = pick(20) == 0 ? pick(9) - 2 : pick(4) - 1;
-            check.due("way " + i + " of " + with, x.way(p, a, b, i), m.way(p, a, b, i));
+            due("way " + i + " of " + with, x.way(p, a, b, i), m.way(p, a, b, i));
         } else if (call < 13) {
-            check.due("go " + with, x.go(p, a, b), m.go(p, a, b));
+            due("go " + with, x.go(p, a, b), m.go(p, a, b));
         } else if (call < 16) {
-            check.due("steps " + with, x.steps(p, k), m.steps(p, k));
+            due("steps " + with, x.steps(p, k), m.steps(p, k));
         } else if (call < 18) {
             int n = pick(30) == 0 ? pick(12) - 1 : 1 + pick(2);
-            check.due("days " + n + " " + with, x.days(n), m.days(n));
+            due("days " + n + " " + with, x.days(n), m.days(n));
         } else if (call < 20) {
             int i = pick(24) - 1;
             int what = what(1);
-            check.due("went " + i + " " + what + " " + with, x.went(i, what), m.went(i, what));
+            due("went " + i + " " + what + " " + with, x.went(i, what), m.went(i, what));
         } else if (call < 23) {
-            check.due("frost " + with, x.frost(), m.frost());
+            due("frost " + with, x.frost(), m.frost());
         } else if (call < 27) {
-            check.due("cart " + with, x.cart(k), m.cart(k));
+            due("cart " + with, x.cart(k), m.cart(k));
         } else {
-            check.due("exchange " + with, x.exchange(k, l), m.exchange(k, l));
+            due("exchange " + with, x.exchange(k, l), m.exchange(k, l));
         }
     }
 
@@ -168,18 +180,18 @@ public final class ModelTest {
         int b = place();
         int what = what(1);
         int image = what(1);
-        String with = name + w + " " + a + " " + b + " " + what + " " + image;
+        String with = w + " " + a + " " + b + " " + what + " " + image;
         if (call < 33) {
-            check.due("all " + with, x.all(what), m.all(what));
+            due("all " + with, x.all(what), m.all(what));
         } else if (call < 38) {
-            check.due("often " + with, x.often(w, a, b, what), m.often(w, a, b, what));
+            due("often " + with, x.often(w, a, b, what), m.often(w, a, b, what));
         } else if (call < 42) {
-            check.due("better " + with, x.better(w, a, b, what), m.better(w, a, b, what));
+            due("better " + with, x.better(w, a, b, what), m.better(w, a, b, what));
         } else if (call < 46) {
             int k = pick(3) == 0 ? -1 : plank();
-            check.due("spent " + k + " " + with, x.spent(image, k), m.spent(image, k));
+            due("spent " + k + " " + with, x.spent(image, k), m.spent(image, k));
         } else {
-            check.due("tell " + with, x.tell(image), m.tell(image));
+            due("tell " + with, x.tell(image), m.tell(image));
         }
     }
 
@@ -188,35 +200,41 @@ public final class ModelTest {
         int image = what(1);
         if (call < 54) {
             int kind = what(5);
-            check.due(name + "rate " + kind + " " + p, x.rate(kind, p), m.rate(kind, p));
+            due("rate " + kind + " " + p, x.rate(kind, p), m.rate(kind, p));
         } else if (call < 55) {
-            check.due(name + "keep " + image, x.keep(image), m.keep(image));
+            due("keep " + image, x.keep(image), m.keep(image));
         } else if (call < 56) {
-            check.due(name + "back " + image, x.back(image), m.back(image));
+            due("back " + image, x.back(image), m.back(image));
         } else if (call < 58) {
             int what = what(6);
-            check.due(name + "count " + what, x.count(what), m.count(what));
+            due("count " + what, x.count(what), m.count(what));
         } else if (call < 59) {
             int n = pick(11) - 1;
-            check.due(name + "type " + n, x.type(seed, n), m.type(seed, n));
+            due("type " + n, x.type(seed, n), m.type(seed, n));
         } else {
-            check.due(name + "trace", x.trace(), m.trace());
+            due("trace", x.trace(), m.trace());
         }
     }
 
     private void lookAtAll() {
         for (int what = 0; what <= 6; what++) {
-            check.due(name + "count " + what, x.count(what), m.count(what));
-            for (int i = 0; i < 9; i++) {
-                check.due(name + "plank " + i + " " + what, x.plank(i, what), m.plank(i, what));
-                check.due(name + "person " + i + " " + what, x.person(i, what), m.person(i, what));
-                check.due(name + "errand " + i + " " + what, x.errand(i, what), m.errand(i, what));
+            due("count " + what, x.count(what), m.count(what));
+        }
+        for (int what = 0; what <= 2; what++) {
+            for (int i = 0; i <= 9; i++) {
+                due("plank " + i + " " + what, x.plank(i, what), m.plank(i, what));
+            }
+            for (int i = 0; i <= 4; i++) {
+                due("person " + i + " " + what, x.person(i, what), m.person(i, what));
+            }
+            for (int i = 0; i <= 3; i++) {
+                due("errand " + i + " " + what, x.errand(i, what), m.errand(i, what));
             }
         }
         for (int i = 0; i <= 20; i++) {
-            check.due(name + "went " + i, x.went(i, 0), m.went(i, 0));
-            check.due(name + "with " + i, x.went(i, 1), m.went(i, 1));
+            due("went " + i, x.went(i, 0), m.went(i, 0));
+            due("with " + i, x.went(i, 1), m.went(i, 1));
         }
-        check.due(name + "trace", x.trace(), m.trace());
+        due("trace", x.trace(), m.trace());
     }
 }
