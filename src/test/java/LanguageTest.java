@@ -6,8 +6,11 @@ import java.lang.reflect.Method;
 import java.lang.reflect.Modifier;
 import java.nio.file.Files;
 import java.nio.file.Path;
+import java.util.ArrayList;
 import java.util.List;
+import java.util.Map;
 import java.util.Set;
+import java.util.TreeMap;
 import java.util.TreeSet;
 import java.util.regex.Matcher;
 import java.util.regex.Pattern;
@@ -28,6 +31,8 @@ public final class LanguageTest {
         "Exact\\b", "\\bprotected\\b", "\\bvar\\b", "Integer\\.", "Long\\.", "\\bwhile\\s*\\(true\\)", "for\\s*\\(;;");
     /** All that the class uses of the library. */
     private static final Set<String> LIBRARY = Set.of("Math.min", "Math.max", "System.arraycopy");
+    /** Those that go from place to place: each carries its depth and stops at the longest way. */
+    private static final Set<String> RECURSIVE = new TreeSet<>(Set.of("beginErrand", "findFrom", "goOn"));
     private static final Check check = new Check("LanguageTest");
 
     public static void main(String[] args) throws IOException {
@@ -40,6 +45,8 @@ public final class LanguageTest {
         }
         library(source);
         methodsAreShort(source);
+        madeInFieldsAlone(source);
+        callsAreNotDeep(source);
         check.holds("signs 1 to 127", source.chars().allMatch(sign -> sign > 0 && sign < 128));
         check.finish();
     }
@@ -158,5 +165,71 @@ public final class LanguageTest {
             }
             check.holds("sixty lines at most:" + lines[i], end - i <= 60);
         }
+    }
+
+    /** What a call would make is counted over all calls of a run: none makes anything. */
+    private static void madeInFieldsAlone(String source) {
+        for (String line : source.split("\n")) {
+            if (line.matches(".*\\bnew\\b.*")) {
+                check.holds("made once, with its object:" + line, line.matches(" +private final [\\w\\[\\]]+ \\w+ = .*;"));
+            }
+        }
+        check.holds("texts are not joined", !source.matches("(?s).*(\"\\s*\\+|\\+\\s*\").*"));
+    }
+
+    /** Methods by their names, with the names that they call; two of one name are taken as one. */
+    private static Map<String, Set<String>> callsByName(String source) {
+        Map<String, String> bodies = new TreeMap<>();
+        String[] lines = source.split("\n");
+        for (int i = 0; i < lines.length; i++) {
+            Matcher m = Pattern.compile("^( {4}| {8})\\w[\\w\\[\\] ]* (\\w+)\\(.*\\) \\{$").matcher(lines[i]);
+            if (!m.matches() || lines[i].trim().matches("(if|for|while|switch)\\b.*")) {
+                continue;
+            }
+            StringBuilder body = new StringBuilder();
+            for (int at = i + 1; at < lines.length && !lines[at].equals(m.group(1) + "}"); at++) {
+                body.append(lines[at]).append('\n');
+            }
+            bodies.merge(m.group(2), body.toString(), String::concat);
+        }
+        Map<String, Set<String>> calls = new TreeMap<>();
+        for (Map.Entry<String, String> body : bodies.entrySet()) {
+            Set<String> called = new TreeSet<>();
+            Matcher m = Pattern.compile("(\\w+)\\(").matcher(body.getValue());
+            while (m.find()) {
+                if (bodies.containsKey(m.group(1))) {
+                    called.add(m.group(1));
+                }
+            }
+            calls.put(body.getKey(), called);
+        }
+        return calls;
+    }
+
+    private static void callsAreNotDeep(String source) {
+        Map<String, Set<String>> calls = callsByName(source);
+        Set<String> recursive = new TreeSet<>();
+        for (String signed : FACE) {
+            String name = signed.substring(signed.indexOf(' ') + 1, signed.indexOf('('));
+            List<String> deepest = deepest(name, calls, new ArrayList<>(), recursive);
+            check.holds("eight deep at most: " + deepest, !deepest.isEmpty() && deepest.size() <= 8);
+        }
+        check.alike("methods that come back to themselves", recursive.toString(), RECURSIVE.toString());
+    }
+
+    /** The longest chain of calls from a method; where one is on the chain already, that is recursion. */
+    private static List<String> deepest(String name, Map<String, Set<String>> calls, List<String> above, Set<String> recursive) {
+        if (above.contains(name)) {
+            recursive.addAll(above.subList(above.indexOf(name), above.size()));
+            return List.of();
+        }
+        List<String> here = new ArrayList<>(above);
+        here.add(name);
+        List<String> longest = here;
+        for (String called : calls.getOrDefault(name, Set.of())) {
+            List<String> chain = deepest(called, calls, here, recursive);
+            longest = chain.size() > longest.size() ? chain : longest;
+        }
+        return longest;
     }
 }
