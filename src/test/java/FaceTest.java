@@ -122,6 +122,10 @@ public final class FaceTest {
             Method call = all.get(more % all.size());
             check.holds(call.getName(), call.invoke(x, numbersFor(call, more / 7)) != null);
         }
+        // These two throw nothing, either: one on the bytes that were typed, one on the empty text.
+        x.marsh();
+        x.clear();
+        x.marsh();
     }
 
     private static List<Method> publicCalls() {
